@@ -16,8 +16,7 @@ public final class FaceTest {
     private static final Path SOURCE = Path.of("src/main/java/TableMove.java");
 
     public static void main(String[] args) throws Exception {
-        face();
-        classesInside();
+        classesInside(face());
         source();
         Due.end();
     }
@@ -40,7 +39,8 @@ public final class FaceTest {
         return String.join(",", Arrays.stream(types).map(Class::getSimpleName).toList());
     }
 
-    private static void face() throws Exception {
+    /** The names of the methods of the face. */
+    private static Set<String> face() throws Exception {
         Set<String> face = new TreeSet<>();
         Set<String> names = new TreeSet<>();
         for (Constructor<?> made : TableMove.class.getDeclaredConstructors()) {
@@ -67,14 +67,18 @@ public final class FaceTest {
             Due.answer(field + " is private", Modifier.isPrivate(field.getModifiers()), !constant);
         }
         Due.answer("TableMove is final", Modifier.isFinal(TableMove.class.getModifiers()), true);
+        return names;
     }
 
-    private static void classesInside() {
+    private static void classesInside(Set<String> names) {
         Class<?>[] inside = TableMove.class.getDeclaredClasses();
         Due.answer("some twelve classes", inside.length <= 12, true);
         for (Class<?> one : inside) {
             Due.answer(one + " is static", Modifier.isStatic(one.getModifiers()), true);
             Due.answer(one + " is public", Modifier.isPublic(one.getModifiers()), false);
+            for (Method method : one.getDeclaredMethods()) {
+                Due.answer(method + " has a name of its own", names.contains(method.getName()), false);
+            }
             int fields = 0;
             for (Field field : one.getDeclaredFields()) {
                 boolean counts = !Modifier.isStatic(field.getModifiers());

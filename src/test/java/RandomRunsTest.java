@@ -40,7 +40,7 @@ public final class RandomRunsTest {
     }
 
     private boolean run(int seed) {
-        boolean right = true;
+        boolean right = seed % 2 == 0 || toTheLead();
         while (calls.size() < CALLS && right) {
             if (random.nextInt(3) > 0) {
                 String name = CHANGES[random.nextInt(CHANGES.length)];
@@ -56,12 +56,22 @@ public final class RandomRunsTest {
         return right;
     }
 
-    /** Some calls come seldom, or a run would never get far. */
+    /** Half of the runs begin where the new table has just begun to lead. */
+    private boolean toTheLead() {
+        boolean right = compare("setForm", new int[] {2, 3, 0, 0}) && compare("fill", new int[] {0, 50, 1, 2});
+        return right && compare("advance", new int[] {40, 0, 0, 0}) && compare("save", new int[4]);
+    }
+
+    /** Some calls come seldom, or a run would never get far, or stay in the phase 3 for ever. */
     private boolean mayCome(String name) {
+        String phase = model.answer("count", new int[4]);
         switch (name) {
-            case "stop": case "goBack": return random.nextInt(3) == 0;
+            case "stop": return random.nextInt(3) == 0;
+            case "goBack": return !phase.equals("2") || random.nextInt(3) == 0;
             case "finish": return random.nextInt(20) == 0;
-            case "restore": return random.nextInt(4) == 0;
+            case "advance": return !phase.equals("2") || random.nextInt(20) == 0;
+            case "save": return !phase.equals("3");
+            case "restore": return phase.equals("3") || random.nextInt(4) == 0;
             case "damage": return random.nextInt(4) < trouble;
             case "setUp": return trouble > 0;
             default: return true;
@@ -84,7 +94,7 @@ public final class RandomRunsTest {
             case "setForm":
                 int form = some(0, 3);
                 return new int[] {form, form == 1 ? some(0, 999) : form == 2 ? some(1, 9) : some(0, 0), 0, 0};
-            case "setUp": return new int[] {some(0, 1), random.nextInt(3) == 0 ? 1 : 0, 0, 0};
+            case "setUp": return new int[] {some(0, 1), random.nextInt(6) == 0 ? 1 : 0, 0, 0};
             case "copy": case "repair": return new int[] {some(1, 15), 0, 0, 0};
             case "advance": return new int[] {random.nextInt(3) == 0 ? some(1, 60) : some(1, 4), 0, 0, 0};
             case "read": return new int[] {some(0, 7), some(0, 59), 0, 0};
@@ -123,14 +133,14 @@ public final class RandomRunsTest {
         int commands = random.nextInt(60) == 0 ? 33 : random.nextInt(5);
         for (int i = 0; i < commands; i++) {
             String word = random.nextInt(3) == 0 ? "put" : WORDS[random.nextInt(WORDS.length)];
-            text.append(word.equals("stop") || word.equals("return") ? "begin" : word);
+            text.append(word);
             switch (word) {
                 case "put": text.append(' ').append(some(0, 59)).append(' ').append(some(0, 5)); break;
                 case "remove": text.append(' ').append(some(0, 59)); break;
                 case "copy": case "repair": text.append(' ').append(some(1, 15)); break;
                 case "check": text.append(' ').append(some(0, 14)); break;
                 case "switch": case "back": text.append(" 00").append(some(0, 7)); break;
-                case "return": text.setLength(text.length() - 5); text.append("return ").append(random.nextBoolean() ? "without" : ""); break;
+                case "return": text.append(random.nextBoolean() ? " without" : ""); break;
                 default: break;
             }
             text.append(random.nextInt(5) == 0 ? "\n;  " : ";");

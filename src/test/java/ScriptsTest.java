@@ -11,6 +11,7 @@ public final class ScriptsTest {
         outOfRange();
         tooManyCommands();
         tokens();
+        endOfTheText();
         latestError();
         Due.end();
     }
@@ -172,6 +173,11 @@ public final class ScriptsTest {
         error("pu 1 1;", 1, 0);
         error("Put 1 1;", 1, 0);
         error("putX 1 1;", 1, 3);
+        error("putz 1 1;", 1, 0);
+        error("put`1 1;", 1, 3);
+        error("put{1 1;", 1, 3);
+        error("put 1/1;", 1, 5);
+        error("put 1:1;", 1, 5);
         error("begin;;", 1, 6);
         error("begin 1;", 1, 6);
         error("begin without;", 1, 6);
@@ -236,6 +242,25 @@ public final class ScriptsTest {
         Due.answer("leading zeros", move.stored(0, 9), 999);
         Due.answer("counts", Moves.run(move, "begin;copy 1;copy 014;"), 3);
         Due.answer("counts", move.count(5), 15);
+    }
+
+    private static void endOfTheText() {
+        TableMove move = new TableMove();
+        Moves.type(move, "put 1 12;");
+        move.truncateText(7);
+        Due.answer("a text that was cut in a number", move.runScript(), TableMove.NONE);
+        Due.answer("a text that was cut in a number", move.errorPosition(), 7);
+        String blanks = " ".repeat(590);
+        error(blanks + "put 1 1000", 2, 596);
+        error(blanks + "     begin", 1, 600);
+        error(blanks + "    put 12", 1, 600);
+        error(" ".repeat(600 - 1) + "9", 1, 599);
+        error("put 1 " + "9".repeat(594), 2, 6);
+        Due.answer("a command at the end", Moves.run(move, blanks + "put 5 17 ;"), 1);
+        Due.answer("a number of 594 digits", Moves.run(move, "put 1" + "0".repeat(593) + "7;"), TableMove.NONE);
+        Due.answer("a number of 594 digits", move.errorPosition(), 4);
+        Due.answer("a number of 590 digits", Moves.run(move, "put 1 " + "0".repeat(590) + "7 ;"), 1);
+        Due.answer("a number of 590 digits", move.stored(0, 1), 7);
     }
 
     private static void latestError() {

@@ -159,6 +159,22 @@ public final class UndoTest {
         Due.answer("what is kept aside is restored", move.stored(0, 3), 30);
         move.restore(0);
         Due.text("it stays saved", Moves.view(move), view);
+        move.restore(0);
+        move.setUp(0, true);
+        move.goBack(false);
+        move.put(3, 444);
+        for (int chunk = 0; chunk < 15; chunk++) {
+            move.check(chunk);
+        }
+        move.lead();
+        move.save(1);
+        move.restore(0);
+        move.setUp(0, true);
+        move.goBack(false);
+        Due.answer("the earlier one is kept aside again", move.stored(0, 3), 30);
+        move.restore(1);
+        move.goBack(false);
+        Due.answer("the later one is kept aside again", move.stored(1, 3), 544);
         TableMove forms = new TableMove();
         forms.setForm(3, 0);
         forms.save(1);
