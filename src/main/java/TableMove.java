@@ -976,7 +976,7 @@ public final class TableMove {
         }
 
         private void compareSums(int chunk) {
-            if (!tables.sumsDiffer(chunk)) {
+            if (tables.sumOf(OLD, chunk) == tables.sumOf(NEW, chunk)) {
                 checked |= 1 << chunk;
                 events.add(CHUNK_AGREES, chunk);
                 return;
@@ -1093,7 +1093,7 @@ public final class TableMove {
             } else if (form == MIRROR) {
                 value = TOP_VALUE - cell;
             }
-            return isValue(value) ? value : BROKEN;
+            return value >= 0 && value <= TOP_VALUE ? value : BROKEN;
         }
 
         boolean hasRowSomewhere(int key) {
@@ -1125,13 +1125,9 @@ public final class TableMove {
             return sum;
         }
 
-        boolean sumsDiffer(int chunk) {
-            return sumOf(OLD, chunk) != sumOf(NEW, chunk);
-        }
-
         boolean someSumsDiffer() {
             for (int chunk = 0; chunk < CHUNKS; chunk++) {
-                if (sumsDiffer(chunk)) {
+                if (sumOf(OLD, chunk) != sumOf(NEW, chunk)) {
                     return true;
                 }
             }
