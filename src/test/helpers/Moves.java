@@ -1,4 +1,4 @@
-/** Objects of TableMove that stand where a test needs them, and ways to look at one whole. */
+/** Objects of TableMove that stand where a test needs them, and texts of what they hold. */
 final class Moves {
     private Moves() {
     }
@@ -106,25 +106,5 @@ final class Moves {
             text.append(move.since(i, 1)).append('<').append(move.since(i, 2));
         }
         return text.toString();
-    }
-
-    /** All that can be seen of what undo() and restore() bring back. */
-    static String view(TableMove move) {
-        StringBuilder text = new StringBuilder();
-        for (int what = 0; what < 15; what++) {
-            text.append(what == 11 ? "" : move.count(what) + ",");
-        }
-        for (int key = 0; key < 60; key++) {
-            text.append(' ').append(move.stored(0, key)).append('/').append(move.stored(1, key));
-            text.append('*').append(move.written(key));
-        }
-        for (int chunk = 0; chunk < 15; chunk++) {
-            text.append(' ').append(move.chunk(chunk, 0)).append(move.chunk(chunk, 1));
-        }
-        for (int reader = 0; reader < 8; reader++) {
-            text.append(move.isSwitched(reader) ? " s" : " -");
-        }
-        text.append(" queue ").append(queue(move)).append(" events ").append(events(move));
-        return text.append(" since ").append(since(move)).toString();
     }
 }

@@ -1,3 +1,5 @@
+import java.util.function.Supplier;
+
 /** Promises 21 to 34: the acts, each with its reasons in their order. */
 public final class ActsTest {
     private static final int NONE = TableMove.NONE;
@@ -515,20 +517,21 @@ public final class ActsTest {
         Due.answer("only rows of the table that leads", after.count(9), 1);
     }
 
-    private static void refusedActsChangeNothing() {
-        TableMove move = Moves.after();
-        move.setUp(0, false);
-        move.put(1, 5);
-        move.setUp(1, false);
-        String view = Moves.view(move);
-        int changes = move.count(11);
-        int[] reasons = {move.put(1, 1), move.remove(1), move.begin(), move.copy(1), move.repair(1), move.check(0),
+    private static int[] refused(TableMove move) {
+        return new int[] {move.put(1, 1), move.remove(1), move.begin(), move.copy(1), move.repair(1), move.check(0),
             move.switchOver(0), move.switchBack(0), move.lead(), move.goBack(true), move.goBack(false), move.stop(),
             move.finish(), move.fill(0, 9, 0, 0), move.clearRange(0, 9)};
-        for (int reason : reasons) {
+    }
+
+    private static void refusedActsChangeNothing() {
+        Supplier<TableMove> made = Seen.then(Moves::after, move -> {
+            move.setUp(0, false);
+            move.put(1, 5);
+            move.setUp(1, false);
+        });
+        for (int reason : refused(made.get())) {
             Due.answer("refused", reason != 0, true);
         }
-        Due.text("nothing changed", Moves.view(move), view);
-        Due.answer("no changes", move.count(11), changes);
+        Seen.same("refused acts", Seen.all(Seen.then(made, ActsTest::refused)), Seen.all(made));
     }
 }

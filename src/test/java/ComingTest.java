@@ -1,3 +1,5 @@
+import java.util.function.Supplier;
+
 /** Promises 35 to 37: why, next and advance. */
 public final class ComingTest {
     private static final int NONE = TableMove.NONE;
@@ -11,20 +13,24 @@ public final class ComingTest {
         Due.end();
     }
 
-    private static void whys(String when, TableMove move, int number, int... want) {
-        String view = Moves.view(move);
+    private static void whys(String when, Supplier<TableMove> made, int number, int... want) {
+        TableMove move = made.get();
         for (int act = 0; act < want.length; act++) {
             Due.answer(when + ": why(" + act + ", " + number + ")", move.why(act, number), want[act]);
         }
-        Due.text(when + ": nothing is done", Moves.view(move), view);
+        Seen.same(when + ": nothing is done", Seen.all(Seen.then(made, other -> {
+            for (int act = 0; act < want.length; act++) {
+                other.why(act, number);
+            }
+        })), Seen.all(made));
     }
 
     private static void why() {
-        whys("new", new TableMove(), 0, 0, 2, 2, 2, 2, 2, 2, 2, 2, 2, 2);
-        whys("doubled", Moves.doubled(), 7, 2, 0, 9, 3, 3, 5, 3, 2, 2, 0, 2);
-        whys("switched", Moves.switched(), 3, 2, 9, 9, 0, 5, 0, 0, 2, 2, 7, 2);
-        whys("after", Moves.after(), 3, 2, 2, 9, 0, 5, 0, 2, 0, 0, 2, 0);
-        whys("over", Moves.over(), 3, 2, 2, 2, 2, 2, 2, 2, 2, 2, 2, 2);
+        whys("new", TableMove::new, 0, 0, 2, 2, 2, 2, 2, 2, 2, 2, 2, 2);
+        whys("doubled", Moves::doubled, 7, 2, 0, 9, 3, 3, 5, 3, 2, 2, 0, 2);
+        whys("switched", Moves::switched, 3, 2, 9, 9, 0, 5, 0, 0, 2, 2, 7, 2);
+        whys("after", Moves::after, 3, 2, 2, 9, 0, 5, 0, 2, 0, 0, 2, 0);
+        whys("over", Moves::over, 3, 2, 2, 2, 2, 2, 2, 2, 2, 2, 2, 2);
         TableMove move = new TableMove();
         Due.argument("why(-1, 0)", () -> move.why(-1, 0));
         Due.argument("why(11, 0)", () -> move.why(11, 0));

@@ -1,3 +1,7 @@
+import java.util.Map;
+import java.util.function.Consumer;
+import java.util.function.Supplier;
+
 /** Promises 49 to 51: undo, save and restore. */
 public final class UndoTest {
     private static final int NONE = TableMove.NONE;
@@ -5,6 +9,7 @@ public final class UndoTest {
     public static void main(String[] args) {
         undoCounts();
         undoBringsBackAll();
+        undoBringsBackWhatIsKeptAside();
         whatUndoLeaves();
         save();
         restoreBringsBackAll();
@@ -39,64 +44,65 @@ public final class UndoTest {
         Due.answer("a change behind an undone one", move.stored(0, 1), 600);
     }
 
-    private interface Change {
-        void run(TableMove move);
-    }
-
-    private static void undone(String change, TableMove move, Change call) {
-        String before = Moves.view(move);
+    private static void undone(String change, Supplier<TableMove> made, Consumer<TableMove> call) {
+        Map<String, String> before = Seen.state(made);
+        TableMove move = made.get();
         int changes = move.count(11);
-        call.run(move);
-        Due.answer(change + " changes something", before.equals(Moves.view(move)), false);
+        call.accept(move);
         Due.answer(change + ": undo()", move.undo(), Math.min(changes, 9));
-        Due.text(change + " is undone", Moves.view(move), before);
+        Due.answer(change + " changes something", Seen.state(Seen.then(made, call)).equals(before), false);
+        Seen.same(change + " is undone", Seen.state(Seen.then(made, other -> {
+            call.accept(other);
+            other.undo();
+        })), before);
     }
 
     private static void undoBringsBackAll() {
-        undone("setForm", new TableMove(), move -> move.setForm(2, 2));
-        undone("setUp", new TableMove(), move -> move.setUp(0, false));
-        undone("put", new TableMove(), move -> move.put(1, 1));
-        undone("fill", new TableMove(), move -> move.fill(0, 59, 1, 1));
-        undone("begin", new TableMove(), move -> move.begin());
-        undone("damage", Moves.doubled(), move -> move.damage(1, 1));
-        undone("remove", Moves.doubled(), move -> move.remove(1));
-        undone("clearRange", Moves.doubled(), move -> move.clearRange(0, 59));
-        undone("copy", Moves.doubled(), move -> move.copy(3));
-        undone("check", Moves.copied(), move -> move.check(3));
-        undone("switchOver", Moves.checked(), move -> move.switchOver(3));
-        undone("switchBack", Moves.switched(), move -> move.switchBack(3));
-        undone("lead", Moves.switched(), move -> move.lead());
-        undone("put after lead", Moves.after(), move -> move.put(0, 1));
-        undone("goBack(true)", Moves.after(), move -> move.goBack(true));
-        undone("goBack(false)", Moves.after(), move -> move.goBack(false));
-        undone("finish", Moves.after(), move -> move.finish());
-        undone("stop", Moves.checked(), move -> move.stop());
-        TableMove stale = Moves.checked();
-        stale.setUp(1, false);
-        undone("stale writes", stale, move -> move.fill(3, 9, 1, 1));
-        stale.fill(3, 9, 1, 1);
-        stale.setUp(1, true);
+        undone("setForm", TableMove::new, move -> move.setForm(2, 2));
+        undone("setUp", TableMove::new, move -> move.setUp(0, false));
+        undone("put", TableMove::new, move -> move.put(1, 1));
+        undone("fill", TableMove::new, move -> move.fill(0, 59, 1, 1));
+        undone("begin", TableMove::new, move -> move.begin());
+        undone("damage", Moves::doubled, move -> move.damage(1, 1));
+        undone("remove", Moves::doubled, move -> move.remove(1));
+        undone("clearRange", Moves::doubled, move -> move.clearRange(0, 59));
+        undone("copy", Moves::doubled, move -> move.copy(3));
+        undone("check", Moves::copied, move -> move.check(3));
+        undone("switchOver", Moves::checked, move -> move.switchOver(3));
+        undone("switchBack", Moves::switched, move -> move.switchBack(3));
+        undone("lead", Moves::switched, move -> move.lead());
+        undone("put after lead", Moves::after, move -> move.put(0, 1));
+        undone("goBack(true)", Moves::after, move -> move.goBack(true));
+        undone("goBack(false)", Moves::after, move -> move.goBack(false));
+        undone("finish", Moves::after, move -> move.finish());
+        undone("stop", Moves::checked, move -> move.stop());
+        Supplier<TableMove> down = Seen.then(Moves::checked, move -> move.setUp(1, false));
+        undone("stale writes", down, move -> move.fill(3, 9, 1, 1));
+        Supplier<TableMove> stale = Seen.then(down, move -> {
+            move.fill(3, 9, 1, 1);
+            move.setUp(1, true);
+        });
         undone("repair", stale, move -> move.repair(4));
         undone("doubled writes", stale, move -> move.fill(0, 59, 1, 1));
-        TableMove written = Moves.after();
-        written.fill(0, 25, 1, 1);
-        undone("goBack(false) with writes", written, move -> move.goBack(false));
-        written.goBack(false);
+        undone("goBack(false) with writes", Seen.then(Moves::after, move -> move.fill(0, 25, 1, 1)), move -> move.goBack(false));
+        undone("a check that finds a difference", Seen.then(Moves::checked, move -> move.damage(5, 5)), move -> move.check(1));
+    }
+
+    private static void undoBringsBackWhatIsKeptAside() {
+        TableMove move = Moves.after();
+        move.goBack(false);
         for (int chunk = 0; chunk < 15; chunk++) {
-            written.check(chunk);
+            move.check(chunk);
         }
-        written.put(7, 5);
-        written.lead();
-        written.undo();
-        written.undo();
-        written.put(7, 6);
-        written.lead();
-        written.put(7, 8);
-        written.goBack(false);
-        Due.answer("what is kept aside is undone, too", written.stored(0, 7), 6);
-        TableMove differs = Moves.checked();
-        differs.damage(5, 5);
-        undone("a check that finds a difference", differs, move -> move.check(1));
+        move.put(7, 5);
+        move.lead();
+        move.undo();
+        move.undo();
+        move.put(7, 6);
+        move.lead();
+        move.put(7, 8);
+        move.goBack(false);
+        Due.answer("what is kept aside is undone, too", move.stored(0, 7), 6);
     }
 
     private static void whatUndoLeaves() {
@@ -141,24 +147,30 @@ public final class UndoTest {
     }
 
     private static void restoreBringsBackAll() {
-        TableMove move = Moves.after();
-        move.setUp(0, false);
-        move.fill(3, 9, 1, 1);
-        String view = Moves.view(move);
-        move.save(0);
-        move.setUp(0, true);
-        move.goBack(false);
-        move.switchBack(0);
-        move.fill(0, 59, 7, 7);
-        move.restore(0);
-        Due.text("restore(0)", Moves.view(move), view);
+        Supplier<TableMove> led = Seen.then(Moves::after, move -> {
+            move.setUp(0, false);
+            move.fill(3, 9, 1, 1);
+        });
+        Supplier<TableMove> restored = Seen.then(led, move -> {
+            move.save(0);
+            move.setUp(0, true);
+            move.goBack(false);
+            move.switchBack(0);
+            move.fill(0, 59, 7, 7);
+            move.restore(0);
+        });
+        Seen.same("restore(0)", Seen.state(restored), Seen.state(led));
+        Seen.same("it stays saved", Seen.state(Seen.then(restored, move -> {
+            move.setUp(0, true);
+            move.goBack(false);
+            move.restore(0);
+        })), Seen.state(led));
+        TableMove move = restored.get();
         Due.answer("no change can be undone", move.count(11), 0);
         Due.answer("no change can be undone", move.undo(), NONE);
         move.setUp(0, true);
         move.goBack(false);
         Due.answer("what is kept aside is restored", move.stored(0, 3), 30);
-        move.restore(0);
-        Due.text("it stays saved", Moves.view(move), view);
         move.restore(0);
         move.setUp(0, true);
         move.goBack(false);
